@@ -386,6 +386,11 @@ public final class EnclosedDigits {
             return v == null || v.open;
         }
 
+        /** Of an exact one both ends are the same, and need not both be worked with. */
+        private static boolean isExact(Value v) {
+            return v.low.compare(v.high) == 0;
+        }
+
         private static boolean isTooLong(Big end) {
             return end.digitCount() > MOST_DIGITS;
         }
@@ -437,10 +442,14 @@ public final class EnclosedDigits {
             }
             over.copy(of.low);
             over.shiftUp(p);
-            bench.squareRoot(over, v.low);
-            over.copy(of.high);
-            over.shiftUp(p);
-            if (bench.squareRoot(over, v.high)) {
+            boolean isMore = bench.squareRoot(over, v.low);
+            v.high.copy(v.low);
+            if (!isExact(of)) {
+                over.copy(of.high);
+                over.shiftUp(p);
+                isMore = bench.squareRoot(over, v.high);
+            }
+            if (isMore) {
                 v.high.grow(1);
             }
         }
@@ -455,21 +464,25 @@ public final class EnclosedDigits {
                 v.open = true;
                 return;
             }
-            for (int corner = 0; corner < 4; corner++) {
-                Big left = corner < 2 ? first.low : first.high;
-                Big right = corner % 2 == 0 ? second.low : second.high;
-                if (divides) {
-                    over.copy(left);
-                    over.shiftUp(p);
-                    divideBothWays(over, right);
-                } else {
-                    multiplyBothWays(left, right, p);
-                }
-                if (corner == 0 || down.compare(v.low) < 0) {
-                    v.low.copy(down);
-                }
-                if (corner == 0 || up.compare(v.high) > 0) {
-                    v.high.copy(up);
+            int lefts = isExact(first) ? 1 : 2;
+            int rights = isExact(second) ? 1 : 2;
+            for (int i = 0; i < lefts; i++) {
+                for (int j = 0; j < rights; j++) {
+                    Big left = i == 0 ? first.low : first.high;
+                    Big right = j == 0 ? second.low : second.high;
+                    if (divides) {
+                        over.copy(left);
+                        over.shiftUp(p);
+                        divideBothWays(over, right);
+                    } else {
+                        multiplyBothWays(left, right, p);
+                    }
+                    if (i + j == 0 || down.compare(v.low) < 0) {
+                        v.low.copy(down);
+                    }
+                    if (i + j == 0 || up.compare(v.high) > 0) {
+                        v.high.copy(up);
+                    }
                 }
             }
         }
@@ -501,6 +514,8 @@ public final class EnclosedDigits {
         // Each term is cut off by less than 20 of the smallest units, and there are at most
         // MOST_TERMS of them, so the sum is nearer than this.
         private static final int SLACK = 1000000;
+        // A greater square times BASE may be more than a long holds.
+        private static final int MOST_SQUARED = 90000;
 
         private final Big term = new Big();
         private final Big part = new Big();
@@ -538,6 +553,7 @@ public final class EnclosedDigits {
 
         /** 1 / x, 1 / 3 x^3, 1 / 5 x^5 ..: every other one is taken away for the arctangent. */
         private void sumTangent(long x, boolean alternates, int places) {
+            boolean isSmall = x <= MOST_SQUARED;
             term.setLong(1);
             term.shiftUp(places);
             term.divideSmall(x);
@@ -546,9 +562,10 @@ public final class EnclosedDigits {
                 part.divideSmall(2L * i + 1);
                 Big side = alternates && i % 2 == 1 ? minus : plus;
                 side.add(part);
-                // Not by x^2 at once, which times BASE may be more than a long holds.
-                term.divideSmall(x);
-                term.divideSmall(x);
+                term.divideSmall(isSmall ? x * x : x);
+                if (!isSmall) {
+                    term.divideSmall(x);
+                }
             }
         }
 
@@ -612,6 +629,7 @@ public final class EnclosedDigits {
 
         private final Big dividend = new Big();
         private final Big divisor = new Big();
+        private final Big part = new Big();
         private final Big better = new Big();
         private final Big rest = new Big();
 
@@ -708,24 +726,34 @@ public final class EnclosedDigits {
         /**
          * The greatest whole number whose square is not above n (0 if n is below 0); true if its
          * square is less than n. Newton's rounds come down from a start above the root, and the
-         * first that does not come further down is the end.
+         * first that does not come further down has found it: first of the highest pair of limbs,
+         * then of twice as many pairs, from one more than was found, till all pairs are seen.
          */
         boolean squareRoot(Big n, Big root) {
             root.clear();
             if (n.sign <= 0) {
                 return false;
             }
-            int pairs = (n.size - 1) / 2;
-            root.setLong(startAbove(n, pairs));
-            root.shiftUp(pairs * LIMB_DIGITS);
+            int unseen = (n.size - 1) / 2;
+            int seen = 1;
+            root.setLong(startAbove(n, unseen));
             for (int i = 0; i < MOST_ROUNDS; i++) {
-                divide(n, root, better, rest);
+                part.copy(n);
+                part.shrink(2 * unseen * LIMB_DIGITS, DOWN);
+                divide(part, root, better, rest);
                 better.add(root);
                 better.divideSmall(2);
-                if (better.compare(root) >= 0) {
+                if (better.compare(root) < 0) {
+                    root.copy(better);
+                } else if (unseen > 0) {
+                    int more = Math.min(seen, unseen);
+                    root.grow(1);
+                    root.shiftUp(more * LIMB_DIGITS);
+                    seen += more;
+                    unseen -= more;
+                } else {
                     break;
                 }
-                root.copy(better);
             }
             better.setProduct(root, root);
             return better.compare(n) < 0;
@@ -890,8 +918,8 @@ public final class EnclosedDigits {
         private void addLimbs(Big other, int newSign) {
             extend(Math.max(size, other.size) + 1);
             int carry = 0;
-            for (int i = 0; i < size; i++) {
-                int sum = limbs[i] + other.limbAt(i) + carry;
+            for (int i = 0; i < size && (i < other.size || carry > 0); i++) {
+                int sum = limbs[i] + (i < other.size ? other.limbs[i] : 0) + carry;
                 carry = sum >= BASE ? 1 : 0;
                 limbs[i] = sum - carry * BASE;
             }
@@ -903,7 +931,8 @@ public final class EnclosedDigits {
             extend(Math.max(size, other.size));
             int borrow = 0;
             for (int i = 0; i < size; i++) {
-                int left = way * (limbs[i] - other.limbAt(i)) - borrow;
+                int less = i < other.size ? other.limbs[i] : 0;
+                int left = way * (limbs[i] - less) - borrow;
                 borrow = left < 0 ? 1 : 0;
                 limbs[i] = left + borrow * BASE;
             }
@@ -927,7 +956,7 @@ public final class EnclosedDigits {
             }
         }
 
-        /** Cuts the quotient off, answers the remainder without its sign. A divisor: 1 to BASE. */
+        /** Cuts the quotient off, answers the remainder without its sign; small is 1 to 9 BASE. */
         long divideSmall(long small) {
             if (small < 1) {
                 return 0;
@@ -950,7 +979,8 @@ public final class EnclosedDigits {
             for (int i = 0; i < a.size; i++) {
                 long factor = a.limbs[i];
                 long carry = 0;
-                for (int j = 0; j < b.size; j++) {
+                // The ends of WHOLES are mostly zeros.
+                for (int j = 0; j < b.size && factor != 0; j++) {
                     long sum = factor * b.limbs[j] + limbs[i + j] + carry;
                     carry = sum / BASE;
                     limbs[i + j] = (int) (sum - carry * BASE);

@@ -13,11 +13,13 @@ public final class ModelTest {
 
     private final Report report = new Report();
     private final Random random;
+    private final boolean squares;
     private final EnclosedDigits it = new EnclosedDigits();
     private final Model model = new Model();
 
     private ModelTest(long seed) {
         random = new Random(seed);
+        squares = seed % 3 == 0;
     }
 
     public static void main(String[] args) {
@@ -67,6 +69,10 @@ public final class ModelTest {
     }
 
     private void make() {
+        if (squares && model.values() > 0 && random.nextInt(3) > 0) {
+            square();
+            return;
+        }
         switch (random.nextInt(12)) {
             case 0, 1 -> {
                 long n = number();
@@ -106,6 +112,14 @@ public final class ModelTest {
                     it.join(op, a, b), model.join(op, a, b));
             }
         }
+    }
+
+    /** Some runs make numbers that grow beyond 800 digits, or hide from 0 till a late precision. */
+    private void square() {
+        int last = model.values() - 1;
+        int op = random.nextInt(4) == 0 ? 3 : 2;
+        int other = op == 3 ? random.nextInt(last + 1) : last;
+        report.due("square", it.join(op, last, other), model.join(op, last, other));
     }
 
     private void ask() {
