@@ -169,7 +169,7 @@ final class Counted {
         }
         String size = digits.toString().replaceFirst("^0+(?=.)", "");
         int sign = bound(which, -1);
-        if ((sign == 0) != size.equals("0")) {
+        if (Math.abs(sign) != (size.equals("0") ? 0 : 1)) {
             return "sign " + sign + " of " + size;
         }
         return sign < 0 ? "-" + size : size;
