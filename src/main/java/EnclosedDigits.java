@@ -508,8 +508,9 @@ public final class EnclosedDigits {
 
     /** The floors of the numbers that are sums of endless series. */
     private static final class Series {
-        private static final int FIRST_GUARD = 18;
-        private static final int MOST_TRIES = 5;
+        // Few enough that some numbers need a second try: else no test could see it.
+        private static final int FIRST_GUARD = 12;
+        private static final int MOST_TRIES = 6;
         private static final int MOST_TERMS = 10000;
         // Each term is cut off by less than 20 of the smallest units, and there are at most
         // MOST_TERMS of them, so the sum is nearer than this.
